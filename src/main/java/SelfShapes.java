@@ -1399,6 +1399,8 @@ public final class SelfShapes {
     private static final class Net {
         static final int ROOM = 216;
 
+        final int[] x = new int[ROOM];
+        final int[] y = new int[ROOM];
         final int[] number = new int[ROOM];
         final int[] low = new int[ROOM];
         final int[] from = new int[ROOM];
@@ -1408,6 +1410,8 @@ public final class SelfShapes {
         final Vectors vectors;
         int size = 0;
         int numbered = 0;
+        /** Each joint is tried from both of its ends. */
+        int jointEnds = 0;
         int joints = 0;
         int parts = 0;
         int cuts = 0;
@@ -1419,10 +1423,12 @@ public final class SelfShapes {
 
         void weave() {
             size = Math.min(ROOM, cells.size);
-            countJoints();
             numbered = 0;
+            jointEnds = 0;
             parts = 0;
             for (int v = 0; v < size; v++) {
+                x[v] = cells.xOf(v);
+                y[v] = cells.yOf(v);
                 number[v] = 0;
                 cut[v] = false;
             }
@@ -1432,22 +1438,12 @@ public final class SelfShapes {
                     explore(v);
                 }
             }
+            joints = jointEnds / 2;
             countCuts();
         }
 
         private boolean joined(int v, int w) {
-            return v != w && vectors.livingAt(cells.xOf(w) - cells.xOf(v), cells.yOf(w) - cells.yOf(v)) >= 0;
-        }
-
-        private void countJoints() {
-            joints = 0;
-            for (int v = 0; v < size; v++) {
-                for (int w = 0; w < v; w++) {
-                    if (joined(v, w)) {
-                        joints++;
-                    }
-                }
-            }
+            return v != w && vectors.livingAt(x[w] - x[v], y[w] - y[v]) >= 0;
         }
 
         private void countCuts() {
@@ -1486,14 +1482,17 @@ public final class SelfShapes {
         }
 
         private int tryJoint(int v, int w) {
-            if (w == from[v] || !joined(v, w)) {
+            if (!joined(v, w)) {
                 return v;
             }
+            jointEnds++;
             if (number[w] == 0) {
                 enter(w, v);
                 return w;
             }
-            low[v] = Math.min(low[v], number[w]);
+            if (w != from[v]) {
+                low[v] = Math.min(low[v], number[w]);
+            }
             return v;
         }
 

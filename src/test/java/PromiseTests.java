@@ -135,6 +135,12 @@ public final class PromiseTests {
 
     private static void newObject() {
         begin(1);
+        int[] constants = {SelfShapes.BAD, SelfShapes.FULL, SelfShapes.FINDING, SelfShapes.STATE, SelfShapes.SPENT,
+            SelfShapes.NONE};
+        int[] values = {-1, -2, -3, -4, -6, -9};
+        for (int i = 0; i < values.length; i++) {
+            due("constant " + i, constants[i], values[i]);
+        }
         for (int what = 0; what <= 3; what++) {
             due("count", x.count(what), 0);
         }
@@ -303,6 +309,11 @@ public final class PromiseTests {
         fault("2/a0-", 5);
         fault("2/a0--", 5);
         fault("2/a0/", 4);
+        fault("2/a.00", 3);
+        fault("2/a:0", 3);
+        fault("2/a0:", 4);
+        fault("2.a00", 1);
+        fault("20a00", 1);
         fault("2/a00", SelfShapes.NONE);
         fault("2/a-0-0", SelfShapes.NONE);
         fault("4/h-9-9/g99", SelfShapes.NONE);
@@ -493,6 +504,10 @@ public final class PromiseTests {
         due("pairs", x.mark(4, 4), 4);
         tell(5, "4/a-9-9/a99");
         due("R by 3", x.mark(5, 1), 6);
+        tell(5, "2/a-50/a31");
+        due("R by x", x.mark(5, 1), 8);
+        tell(5, "2/a0-5/a14");
+        due("R by y", x.mark(5, 1), 9);
         for (int kind = 1; kind <= 4; kind++) {
             int asked = kind;
             found("a shape", UNLIKE, () -> x.mark(0, asked));
@@ -762,6 +777,9 @@ public final class PromiseTests {
         }
         due("far off", x.meets(0, LOW, HIGH), 0);
         due("far off", x.meets(0, HIGH, LOW), 0);
+        tell(0, SQUARE);
+        due("the least vector", x.meets(0, -1, -1), 1);
+        due("the greatest vector", x.meets(0, 1, 1), 1);
         notStraight(26, s -> x.meets(s, 0, 0));
     }
 
@@ -771,6 +789,10 @@ public final class PromiseTests {
         int[] due = {4, 4, 27, 4, 4};
         for (int i = 0; i < 5; i++) {
             due("beside " + i, x.beside(0, i), due[i]);
+        }
+        tell(1, SQUARE);
+        for (int i = 0; i < 4; i++) {
+            due("all others of a square", x.beside(1, i), 15 - (1 << i));
         }
         tell(1, DUST);
         due("none", x.beside(1, 0), 0);
@@ -818,6 +840,12 @@ public final class PromiseTests {
         net("dust 1", 2, 1, 0, 4, 0, 0);
         net("dust 3", 2, 3, 0, 64, 0, 0);
         net("a line of 8", 3, 3, 7, 1, 0, 6);
+        tell(3, "3/a10/a00/a20");
+        net("a line from its middle", 3, 1, 2, 1, 0, 1);
+        tell(3, "3/a11/a01/a22/a02/a10/a00");
+        net("rings with two ends, the first point a cut", 3, 1, 7, 1, 2, 2);
+        tell(3, "3/a21/a00/a20/a02/a22/a11");
+        net("rings and ends at the last point", 3, 1, 7, 1, 2, 1);
         tell(3, LINE_TWICE);
         net("a line of 7 points, each with two on both sides", 3, 2, 11, 1, 5, 0);
         tell(3, "3/a00/a10/a20/a02/a12/a22");
@@ -852,6 +880,7 @@ public final class PromiseTests {
         in("a third of a side", 1, 0, 3, 1, 2);
         in("off", -1, 0, 12, 0, 0);
         in("far off", 200, -200, 1, 0, 0);
+        in("far off", -200, 200, 12, 0, 0);
         tell(0, SQUARE);
         in("the middle of a square", 1, 1, 2, 1, 5);
         in("not in lowest terms", 6, 6, 12, 1, 5);
@@ -964,6 +993,8 @@ public final class PromiseTests {
         due("gasket 1", x.holes(0, 1), 0);
         due("gasket 2", x.holes(0, 2), 1);
         due("gasket 3", x.holes(0, 3), 4);
+        tell(0, "3/a-42/a-51/a-31/a-40");
+        due("a ring below 0", x.holes(0, 1), 1);
         tell(1, "3/c23/g16");
         due("1600 cells", x.holes(1, 3), 0);
         tell(1, "4/f4-9/c18");
@@ -1027,6 +1058,10 @@ public final class PromiseTests {
         x.told(0, 1);
         due("not the same", x.same(0, 3, 1), 0);
         due("asked stays", x.asked(), 2);
+        tell(4, "2/a00/a10");
+        tell(4, "2/a00/a10/a01/a33");
+        tell(5, "2/a22/a10/a01/a33");
+        due("the first alone is not the same", x.same(4, 5, 1), 0);
         tell(4, "2/a00/a10");
         due("fewer", x.same(0, 4, 1), 0);
         due("more", x.same(4, 0, 1), 0);
@@ -1120,13 +1155,14 @@ public final class PromiseTests {
         fill(0, 1, 1, 1, 1);
         x.weighed(3, 2, 0);
         x.barred(4, 2, 0);
-        due("rows", x.count(0), 2);
+        x.row(1, 40);
+        due("rows", x.count(0), 3);
         due("texts", x.count(1), 2);
         due("shapes", x.count(2), 5);
         due("straight ones", x.count(3), 2);
         x.drop(2);
         x.tear(5);
-        due("rows", x.count(0), 1);
+        due("rows", x.count(0), 2);
         due("shapes", x.count(2), 4);
         due("straight ones", x.count(3), 1);
         bad("what 4", () -> x.count(4));

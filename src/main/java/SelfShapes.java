@@ -470,7 +470,7 @@ public final class SelfShapes {
         if (shapes[s].kind != WEIGHED) {
             return refuse(UNLIKE);
         }
-        latestMany = shapes[s].weightAt(k, 0, 0, 1, x, y);
+        latestMany = shapes[s].weightAt(k, x, y);
         return 1;
     }
 
@@ -925,8 +925,12 @@ public final class SelfShapes {
             return all;
         }
 
+        long weightAt(int k, int x, int y) {
+            return weightAhead(k, 0, 0, 1, x, y);
+        }
+
         /** How much all words weigh that lead to (toX, toY) by putting left moves more ahead of (x, y)'s word. */
-        long weightAt(int left, int x, int y, int scale, int toX, int toY) {
+        private long weightAhead(int left, int x, int y, int scale, int toX, int toY) {
             if (left <= 0) {
                 return x == toX && y == toY ? 1 : 0;
             }
@@ -934,7 +938,7 @@ public final class SelfShapes {
             for (int i = 0; i < moves; i++) {
                 int nextX = aheadX(i, x, y, scale);
                 int nextY = aheadY(i, x, y, scale);
-                all += weightOf(i) * weightAt(left - 1, nextX, nextY, scale * base, toX, toY);
+                all += weightOf(i) * weightAhead(left - 1, nextX, nextY, scale * base, toX, toY);
             }
             return all;
         }

@@ -45,13 +45,21 @@ final class NeighbourSentences extends Sentences {
         }
     }
 
+    /** A shape, and another one that is told and asked later, so that nothing of it may stay behind. */
+    private static void tellAmong(String told) {
+        anew();
+        tell(0, told);
+        tell(1, CROSS);
+        x.rings(1, 2);
+        x.in(1, 1, 1, 2);
+    }
+
     private static void alive() {
         sentence(25, "How many VECTORS are ALIVE ((0, 0), too).");
         String[] told = {"2/a00", "4/a99", "2/a00/a00", GASKET, SQUARE, CROSS, DUST, LINE_TWICE, FAR, SIX,
             "3/a-9-9/a99/a-99/a9-9", "4/a-9-9/a99/a-99/a9-9", "2/a-9-9/a99/a-99/a9-9/a00/a01", PLACES_2000};
         for (String moves : told) {
-            anew();
-            tell(0, moves);
+            tellAmong(moves);
             due("alive of " + moves, x.alive(0), new Plain(moves).alive().size());
         }
         anew();
@@ -67,8 +75,7 @@ final class NeighbourSentences extends Sentences {
         for (String told : new String[] {GASKET, LINE_TWICE, "3/a00/a20/a02", "4/a-90/a9-9/a3-2"}) {
             Set<Plain.Cell> alive = new Plain(told).alive();
             for (int vx = -8; vx <= 8; vx++) {
-                anew();
-                tell(0, told);
+                tellAmong(told);
                 for (int vy = -8; vy <= 8; vy++) {
                     due("meets " + vx + ", " + vy, x.meets(0, vx, vy), alive.contains(new Plain.Cell(vx, vy)) ? 1 : 0);
                 }
@@ -123,8 +130,7 @@ final class NeighbourSentences extends Sentences {
     }
 
     private static void besideAre(String told, int... due) {
-        anew();
-        tell(0, told);
+        tellAmong(told);
         for (int i = 0; i < due.length; i++) {
             due("beside " + i + " of " + told, x.beside(0, i), due[i]);
         }
@@ -158,8 +164,7 @@ final class NeighbourSentences extends Sentences {
     }
 
     private static void hangsIs(String told, int due) {
-        anew();
-        tell(0, told);
+        tellAmong(told);
         due("hangs of " + told, x.hangs(0), due);
     }
 
@@ -185,10 +190,10 @@ final class NeighbourSentences extends Sentences {
 
     private static void netIs(String told, int k) {
         Map<Plain.Cell, Set<Plain.Cell>> net = new Plain(told).net(k);
-        anew();
-        tell(0, told);
+        tellAmong(told);
         due("net of " + told + " at " + k, x.net(0, k), Plain.joints(net));
         due("its parts", x.many(), Plain.parts(net, null));
+        x.net(1, 2);
         due("rings of " + told + " at " + k, x.rings(0, k), Plain.joints(net) - net.size() + Plain.parts(net, null));
         due("its cuts", x.many(), Plain.cuts(net));
     }
@@ -202,10 +207,10 @@ final class NeighbourSentences extends Sentences {
     }
 
     private static void netIs(String told, int k, int joints, int parts, int rings, int cuts) {
-        anew();
-        tell(0, told);
+        tellAmong(told);
         due("net of " + told + " at " + k, x.net(0, k), joints);
         due("its parts", x.many(), parts);
+        x.net(1, 2);
         due("rings of " + told + " at " + k, x.rings(0, k), rings);
         due("its cuts", x.many(), cuts);
     }
@@ -256,8 +261,7 @@ final class NeighbourSentences extends Sentences {
     }
 
     private static void inIs(String what, String told, int px, int py, int q, int isIn) {
-        anew();
-        tell(0, told);
+        tellAmong(told);
         int goOn = new Plain(told).goOn(px, py, q);
         due(what, x.in(0, px, py, q), isIn);
         due(what + ": asked()", x.asked(), goOn);
@@ -290,6 +294,16 @@ final class NeighbourSentences extends Sentences {
             inIs("behind the greatest y, q " + q, FAR, 9 * q, 9 * q + 1, q, 0);
             inIs("behind the least x, q " + q, FAR, -9 * q - 1, -9 * q, q, 0);
             inIs("behind the least y, q " + q, FAR, -9 * q, -9 * q - 1, q, 0);
+        }
+        for (int base = 3; base <= 4; base++) {
+            int by = base - 1;
+            for (int q = by; q <= 12; q += by) {
+                inIs("one move far off, q " + q, base + "/a9-9", 9 * q / by, -9 * q / by, q, 1);
+                inIs("one move far off below, q " + q, base + "/a-99", -9 * q / by, 9 * q / by, q, 1);
+                inIs("beside one move far off, q " + q, base + "/a9-9", 9 * q / by - 1, -9 * q / by, q, 0);
+                inIs("a least corner above 0, q " + q, base + "/a67/a89", 6 * q / by, 7 * q / by, q, 1);
+                inIs("a greatest corner below 0, q " + q, base + "/a-6-7/a-8-9", -6 * q / by, -7 * q / by, q, 1);
+            }
         }
         inIs("bounds that are halves", "3/a00/a11", 1, 1, 2, 1);
         inIs("bounds that are halves, whole places", "3/a00/a11", 1, 1, 1, 0);
@@ -365,8 +379,7 @@ final class NeighbourSentences extends Sentences {
             "2/a-9-9/a99/a-99/a9-9/a00/a01"};
         for (String moves : told) {
             Plain plain = new Plain(moves);
-            anew();
-            tell(0, moves);
+            tellAmong(moves);
             for (int k = 0; k <= 6; k++) {
                 tellsMany("rim of " + moves + " at " + k, x.rim(0, k), plain.rim(k));
             }

@@ -171,6 +171,14 @@ final class PictureSentences extends Sentences {
         holesAre("3/a00/a20/a02/a22", 0, 0);
         holesAre("3/a00/a10/a20/a01/a21/a02", 0, 0);
         holesAre("2/a10/a01/a21/a12", 0, 1);
+        // what is open to one side is no hole
+        holesAre("3/a00/a10/a21/a02/a12", 0, 0);
+        holesAre("3/a10/a20/a01/a12/a22", 0, 0);
+        holesAre("3/a00/a01/a12/a20/a21", 0, 0);
+        holesAre("3/a01/a02/a10/a21/a22", 0, 0);
+        holesAre("2/a10/c11/g00/d11/a01", 0, 0, 0);
+        holesAre("2/a11/b22/a31", 0, 0, 0);
+        holesAre("4/a34/a43/a32", 0, 0, 0);
     }
 
     private static void holesRefused() {
@@ -203,7 +211,8 @@ final class PictureSentences extends Sentences {
         found(NOTHING, () -> x.holes(7, 3));
         anew();
         due("no points, step 2", x.holes(1, 2), 0);
-        due("no points, step 3", x.holes(1, 3), 0);
+        x.points(0, 5);
+        due("no points behind far ones", x.holes(1, 3), 0);
         due("points, step 1", x.holes(1, 1), 0);
     }
 
@@ -332,8 +341,9 @@ final class PictureSentences extends Sentences {
         sameNot("one board, as many, not the same", "2/a00/a10/a01/a33", "2/a00/a20/a01/a33", 1);
         sameNot("mirrored", GASKET, "2/a00/a10/a11", 1);
         sameNot("another base", "2/a00/a10", "3/a00/a10", 2);
-        sameNot("the last point alone is off", "2/a00/a10/a20/a30/a40/a50", "2/a00/a10/a20/a30/a40/a60", 1);
-        sameNot("the first point alone is off", "2/a00/a20/a30/a40/a50/a60", "2/a10/a20/a30/a40/a50/a60", 1);
+        sameNot("the greatest point alone is off", "2/a00/a10/a20/a30/a40/a50", "2/a00/a10/a20/a30/a40/a60", 1);
+        sameNot("the first point alone is off", "2/a11/a00/a20/a02/a22", "2/a10/a00/a20/a02/a22", 1);
+        sameNot("the last point alone is off", "2/a00/a20/a02/a22/a11", "2/a00/a20/a02/a22/a10", 1);
         anew();
         tell(0, TURNED);
         due("with itself", x.same(0, 0, 4), 1);
@@ -363,6 +373,8 @@ final class PictureSentences extends Sentences {
         due("with points still", x.same(1, 0, 1), 1);
         given(() -> { });
         sameIs("the farthest", "4/a-9-9", "4/a99", 4, 1530);
+        sameIs("the most points", SIX, "4/a11/a01/a10/a20/a30/a00", 4, 0);
+        sameNot("the most points, not the same", SIX, "4/a00/a10/a20/a30/a01/a31", 4);
         sameIs("the farthest of two", "4/a-9-9/a0-9", "4/a09/a99", 4, 765);
         sameNot("far and not the same", "4/a-9-9/a-99/a0-9", "4/a9-9/a99/a90", 4);
     }

@@ -85,9 +85,23 @@ public final class LanguageTests {
                 rule(end - i <= 60, "a short method: " + lines[i].trim());
                 String told = lines[i].substring(lines[i].indexOf('('));
                 rule(told.chars().filter(c -> c == ',').count() < 7, "seven parameters: " + lines[i].trim());
+                recursion(lines, i, end);
             }
         }
         rule(classes <= 12, "twelve classes, not " + classes);
+    }
+
+    /** A method that calls itself is private, and carries its depth as an argument. */
+    private static void recursion(String[] lines, int begin, int end) {
+        Matcher name = Pattern.compile("(\\w+)\\(").matcher(lines[begin]);
+        Pattern called = Pattern.compile(name.find() ? "(?<![.\\w])" + name.group(1) + "\\(([^;]*)" : "$^");
+        for (int i = begin + 1; i < end; i++) {
+            Matcher self = called.matcher(lines[i]);
+            if (self.find()) {
+                rule(lines[begin].trim().startsWith("private"), "a private one calls itself: " + lines[begin].trim());
+                rule(self.group(1).contains("left - 1"), "it carries its depth: " + lines[i].trim());
+            }
+        }
     }
 
     private static String signature(Method m) {
